@@ -109,6 +109,7 @@ public final class BrokerTree {
         }
         int number = notes.size();
         if (number >= MOST_NOTES) {
+            // Behind the calls that an object is made for; what is kept stays bounded.
             return NONE;
         }
         notes.add(new Note(a, b, c));
@@ -626,9 +627,10 @@ public final class BrokerTree {
         }
 
         /**
-         * Makes the ends values that pass, as includes needs it; a step for each exclusion is enough.
-         * (Words: not each code between two words is a word, but a beginning of up to three letters
-         * has more words than can be excluded, so that its ends tell enough as they are.)
+         * Moves the ends to values that pass, because includes goes by the ends; a step for each
+         * exclusion is enough. An end of words may come to lie on a code that is no word, which does
+         * no harm: a beginning of up to three letters has so many words that no exclusions leave only
+         * those of a longer one.
          */
         void tighten() {
             for (int k = 0; k < exclusions; k++) {
