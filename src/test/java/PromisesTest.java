@@ -1,13 +1,11 @@
 /** For each promise: ordinary inputs, the edges that the document names, and wrong inputs. */
 public final class PromisesTest {
-    private static final String NO_ARGUMENT = "throws.IllegalArgumentException";
-    private static final String NO_STATE = "throws.IllegalStateException";
-    private static final String NO_ELEMENT = "throws.NoSuchElementException";
-    private static final int NOTHING = 1000;
-    /** Broker k beside broker k - 1 for each k. */
-    private static final int CHAIN = 1 << 3 | 2 << 6 | 3 << 9 | 4 << 12;
-    /** Each broker beside broker 0. */
-    private static final int STAR = 0;
+    private static final String NO_ARGUMENT = Checks.NO_ARGUMENT;
+    private static final String NO_STATE = Checks.NO_STATE;
+    private static final String NO_ELEMENT = Checks.NO_ELEMENT;
+    private static final int NOTHING = Checks.NOTHING;
+    private static final int CHAIN = Checks.CHAIN;
+    private static final int STAR = Checks.STAR;
 
     private static final String[] NO_FILTERS = {
         "", " ", "a", "a=", "=5", "a5", "a=1&", "&a=1", "a=1&&b=2", "a=1 ", " a=1", "a =1", "a= 1", "a=1234",
