@@ -46,6 +46,7 @@ public final class PromiseEdgesTest {
         readRound();
         filtersNone();
         coversWrong();
+        coversFull();
         coversEmpties();
         countOthers();
         countEach();
@@ -115,6 +116,11 @@ public final class PromiseEdgesTest {
         due("2: covers", Checks.covers(tree, "a=1 a=1"), true);
         Checks.dueEmptyDraft("2: covers", tree);
         due("2: twice in a row", Checks.answer(() -> tree.subscribe(0)), NO_ARGUMENT);
+        due("2: a longer one first", Checks.subscribe(tree, 2, "c=abcd"), 1);
+        due("2: a shorter one then", Checks.subscribe(tree, 3, "c=ab"), 2);
+        Checks.publish(tree, 2, 0, 0, "abcd");
+        Checks.publish(tree, 3, 0, 0, "ab");
+        due("2: nothing is left of the longer ones", Checks.read(tree, 2) + Checks.read(tree, 3), "12");
     }
 
     /** The same sentence: the calls that do not take it leave it, also those that throw. */
@@ -540,6 +546,20 @@ public final class PromiseEdgesTest {
         for (char c = 32; c < 127; c++) {
             due("11: between " + c, Checks.covers(new BrokerTree(STAR), "a=1" + c + "a=1"), c == ' ' ? "true" : NO_ARGUMENT);
         }
+    }
+
+    /** The same sentences, with drafts of 30 characters that end in the middle of a filter. */
+    private static void coversFull() {
+        String first = "a[-999&b]-999&c^abcd";
+        for (String text : new String[] {"x".repeat(30), "a".repeat(30), first + "&a[-999&b=", first + " ".repeat(10),
+                first + " a=1&b=12&", first + " a=1&b=1&a", first + " b=-123&c^", first + " a=1&b=1&-", first + "&a=1 b=1 c"}) {
+            due("11: how long is " + text, text.length(), 30);
+            BrokerTree tree = new BrokerTree(STAR);
+            due("11: no two filters " + text, Checks.covers(tree, text), NO_ARGUMENT);
+            Checks.dueEmptyDraft("11: " + text, tree);
+        }
+        due("11: two filters", Checks.covers(new BrokerTree(STAR), first + " a=1&b=123"), false);
+        due("11: two filters", Checks.covers(new BrokerTree(STAR), "c^abc&a!-9 c^abcd&b]-999&a=-99"), true);
     }
 
     /** 11: "and is empty then (also when it throws)". */
