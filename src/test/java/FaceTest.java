@@ -37,6 +37,7 @@ public final class FaceTest {
         methods();
         fields();
         classesInside();
+        sizes();
         source();
         Checks.end("FaceTest");
     }
@@ -62,10 +63,24 @@ public final class FaceTest {
             }
         }
         due("methods", open, new TreeSet<>(Arrays.asList(FACE)));
-        Stream<Class<?>> all = Stream.concat(Stream.of(BrokerTree.class), Stream.of(BrokerTree.class.getDeclaredClasses()));
-        all.flatMap(type -> Stream.of(type.getDeclaredMethods()))
+        allClasses().flatMap(type -> Stream.of(type.getDeclaredMethods()))
                 .filter(method -> Modifier.isPrivate(method.getModifiers()))
                 .forEach(method -> due("name of " + method, names.contains(method.getName()), false));
+    }
+
+    private static Stream<Class<?>> allClasses() {
+        return Stream.concat(Stream.of(BrokerTree.class), Stream.of(BrokerTree.class.getDeclaredClasses()));
+    }
+
+    /** LANGUAGE.md 11: few parameters, and few fields beside the constants. */
+    private static void sizes() {
+        allClasses().forEach(type -> {
+            long fields = Stream.of(type.getDeclaredFields()).filter(field -> !Modifier.isStatic(field.getModifiers())).count();
+            due("few fields: " + type, fields <= 20, true);
+            for (Method method : type.getDeclaredMethods()) {
+                due("few parameters: " + method, method.getParameterCount() <= 7, true);
+            }
+        });
     }
 
     private static String written(Method method) {
@@ -103,6 +118,9 @@ public final class FaceTest {
         for (String line : source.split("\n")) {
             if (line.startsWith("import ")) {
                 due(line, line.matches("import java\\.util\\.(ArrayList|NoSuchElementException);"), true);
+            }
+            if (line.contains("throw ")) {
+                due(line, line.matches(" +throw new (IllegalArgument|IllegalState|NoSuchElement)Exception\\(\\);"), true);
             }
         }
     }
